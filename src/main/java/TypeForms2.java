@@ -648,7 +648,7 @@ public final class TypeForms2 {
             return base;
         }
 
-        int putIn(int type, int by, int depth) {
+        private int putIn(int type, int by, int depth) {
             if (types.isRaw(by)) {
                 return erase(type);
             }
@@ -756,7 +756,7 @@ public final class TypeForms2 {
             this.forms = forms;
         }
 
-        int ask(int a, int b, int depth) {
+        private int ask(int a, int b, int depth) {
             if (depth >= TOO_DEEP) {
                 return 0;
             }
@@ -1010,7 +1010,7 @@ public final class TypeForms2 {
         }
 
         /** The TYPE whose TEXT begins here, or NONE with a FAULT. */
-        int typeText(int depth) {
+        private int typeText(int depth) {
             int type = baseText(depth);
             for (int i = 0; i < MOST_TAPE && fault == NONE && next() == '['; i++) {
                 if (!types.canBeElement(type)) {
