@@ -695,7 +695,8 @@ public final class ModelTest {
             String kind = name + " " + (want < 0 && (want > -10 || want <= -100) ? want
                     : name.equals("read") && want < 0 ? "fault" : name.equals("below") ? "" + want : "well");
             seen.merge(kind, 1, Integer::sum);
-            wrong |= got != want;
+            // What is answered behind the 512th call is free.
+            wrong |= calls <= CALLS && got != want;
             return want;
         }
 

@@ -4,90 +4,39 @@ public final class PromisesTest {
     private static final int CLASS = 0, INTERFACE = 1, EXCEPTION = 2;
     private static final int EXACT = 0, UP_TO = 1, FROM = 2, ANY = 3;
     private static final int VOID = 8, NULL = 9, OBJECT = 10;
-    private static int wrong = 0;
-    private static String about = "";
 
     private static void due(String call, long got, long want) {
-        if (got != want) {
-            wrong++;
-            System.out.println(about + ": " + call + " answered " + got + ", due is " + want);
-        }
+        Check.due(call, got, want);
     }
 
     private static void due(String call, String got, String want) {
-        if (!got.equals(want)) {
-            wrong++;
-            System.out.println(about + ": " + call + " answered " + got + ", due is " + want);
-        }
+        Check.due(call, got, want);
     }
 
-    private static int read(TypeForms2 x, String text) {
-        for (int i = 0; i < text.length(); i += 8) {
-            int n = Math.min(8, text.length() - i);
-            long w = 0;
-            for (int k = 0; k < n; k++) {
-                w = w << 8 | text.charAt(i + k);
-            }
-            due("feed of " + text, x.feed(n, w), i + n);
-        }
-        return x.read();
-    }
-
-    private static String text(TypeForms2 x, int node) {
-        if (node < 0) {
-            return "" + node;
-        }
-        int length = x.print(node);
-        StringBuilder s = new StringBuilder();
-        for (int i = 0; i < length; i++) {
-            s.append((char) x.out(i));
-        }
-        return s.toString();
-    }
-
-    private static void below(TypeForms2 x, String a, String b, int want) {
-        int first = read(x, a);
-        int second = read(x, b);
+    private static void below(Calls x, String a, String b, int want) {
+        int first = x.read(a);
+        int second = x.read(b);
         int nodes = x.count(1);
         due("below of " + a + " and " + b, x.below(first, second), want);
         due("NODES behind below", x.count(1), nodes);
     }
 
-    private static void member(TypeForms2 x, String type, String by, String want) {
-        int first = read(x, type);
-        int second = read(x, by);
-        due("member of " + type + " by " + by, text(x, x.member(first, second)), want);
+    private static void member(Calls x, String type, String by, String want) {
+        int first = x.read(type);
+        int second = x.read(by);
+        due("member of " + type + " by " + by, x.text(x.member(first, second)), want);
     }
 
-    private static void above(TypeForms2 x, String type, int declaration, String want) {
-        due("above of " + type + " for " + declaration, text(x, x.above(read(x, type), declaration)), want);
+    private static void above(Calls x, String type, int declaration, String want) {
+        due("above of " + type + " for " + declaration, x.text(x.above(x.read(type), declaration)), want);
     }
 
-    private static void erased(TypeForms2 x, String type, String want) {
-        due("erased of " + type, text(x, x.erased(read(x, type))), want);
-    }
-
-    /** NODES by long ARRAYS of primitives. */
-    private static void fill(TypeForms2 x, int nodes) {
-        for (int i = 0; i < 8 && x.count(1) < nodes; i++) {
-            read(x, i + "[]".repeat(Math.min(49, nodes - x.count(1))));
-        }
-        due("NODES when filled", x.count(1), nodes);
-    }
-
-    /** B: interface, 1; C: class, 2; D: class; E: class, 1, in C; F: exception, in E. Variables from 11 on. */
-    private static TypeForms2 world() {
-        TypeForms2 x = new TypeForms2();
-        x.declare(INTERFACE, 1, NONE);
-        x.declare(CLASS, 2, NONE);
-        x.declare(CLASS, 0, NONE);
-        x.declare(CLASS, 1, 2);
-        x.declare(EXCEPTION, 0, 4);
-        return x;
+    private static void erased(Calls x, String type, String want) {
+        due("erased of " + type, x.text(x.erased(x.read(type))), want);
     }
 
     private static void newObject() {
-        TypeForms2 x = new TypeForms2();
+        Calls x = new Calls();
         int[] counts = {1, 11, 0, 0, 0, 0};
         for (int i = 0; i < counts.length; i++) {
             due("count " + i, x.count(i), counts[i]);
@@ -108,7 +57,7 @@ public final class PromisesTest {
     }
 
     private static void declare() {
-        TypeForms2 x = new TypeForms2();
+        Calls x = new Calls();
         due("outer unknown", x.declare(9, 9, 1), UNKNOWN);
         due("outer below NONE", x.declare(CLASS, 0, -2), UNKNOWN);
         due("kind 3", x.declare(3, 0, NONE), OUTSIDE);
@@ -128,8 +77,8 @@ public final class PromisesTest {
         due("a thirteenth", x.declare(CLASS, 3, NONE), ROOM);
         due("no variables of it", x.count(1), nodes);
         due("a thirteenth exception with a parameter", x.declare(EXCEPTION, 1, NONE), -101);
-        TypeForms2 full = new TypeForms2();
-        fill(full, 198);
+        Calls full = new Calls();
+        full.fill(198);
         due("variables without room", full.declare(CLASS, 3, NONE), ROOM);
         due("none came", full.count(0) * 1000 + full.count(1), 1198);
         due("variables with room", full.declare(CLASS, 2, NONE), 1);
@@ -137,7 +86,7 @@ public final class PromisesTest {
     }
 
     private static void variable() {
-        TypeForms2 x = world();
+        Calls x = Calls.world();
         due("c1", x.variable(2, 1), 13);
         due("e0", x.variable(4, 0), 14);
         due("c2", x.variable(2, 2), UNKNOWN);
@@ -148,21 +97,21 @@ public final class PromisesTest {
     }
 
     private static void bound() {
-        TypeForms2 x = world();
-        int bOfC0 = read(x, "B<c0>");
-        int upToC0 = read(x, "B<+c0>");
-        int bOfB0 = read(x, "B<b0>");
-        int d = read(x, "D");
+        Calls x = Calls.world();
+        int bOfC0 = x.read("B<c0>");
+        int upToC0 = x.read("B<+c0>");
+        int bOfB0 = x.read("B<b0>");
+        int d = x.read("D");
         due("unknown declaration", x.bound(6, 0, 10), UNKNOWN);
         due("unknown place", x.bound(2, 2, 10), UNKNOWN);
         due("unknown node", x.bound(2, 0, 200), UNKNOWN);
         due("a primitive", x.bound(2, 0, 4), -102);
-        due("an array", x.bound(2, 0, read(x, "A[]")), -102);
+        due("an array", x.bound(2, 0, x.read("A[]")), -102);
         due("a variable of another", x.bound(2, 0, 11), -102);
         due("up to a variable", x.bound(2, 0, upToC0), -102);
         due("of a variable of another", x.bound(2, 0, bOfB0), -102);
-        due("an array of a variable", x.bound(2, 0, read(x, "B<c0[]>")), -102);
-        due("an outer type with a variable", x.bound(4, 0, read(x, "C<e0,A>.E<A>")), -102);
+        due("an array of a variable", x.bound(2, 0, x.read("B<c0[]>")), -102);
+        due("an outer type with a variable", x.bound(4, 0, x.read("C<e0,A>.E<A>")), -102);
         due("itself", x.bound(2, 0, 12), -106);
         due("the other", x.bound(2, 0, 13), 1);
         due("back to it", x.bound(2, 1, 12), -106);
@@ -175,8 +124,8 @@ public final class PromisesTest {
         due("a fourth", x.bound(2, 1, bOfC0), ROOM);
         due("a fourth that is no interface", x.bound(2, 1, d), -105);
         due("all bounds", x.count(7), 4);
-        due("any argument", x.bound(4, 0, read(x, "B<?>")), 1);
-        TypeForms2 y = new TypeForms2();
+        due("any argument", x.bound(4, 0, x.read("B<?>")), 1);
+        Calls y = new Calls();
         y.declare(CLASS, 3, NONE);
         due("0 by 1", y.bound(1, 0, 12), 1);
         due("1 by 2", y.bound(1, 1, 13), 1);
@@ -184,32 +133,32 @@ public final class PromisesTest {
     }
 
     private static void parent() {
-        TypeForms2 x = world();
+        Calls x = Calls.world();
         x.declare(INTERFACE, 1, NONE);
         due("of OBJECT", x.parent(0, 10), UNKNOWN);
         due("of none", x.parent(7, 10), UNKNOWN);
         due("no node", x.parent(2, 200), UNKNOWN);
         due("an own variable", x.parent(2, 12), -102);
-        due("of another's variable", x.parent(2, read(x, "B<b0>")), -102);
-        due("an outer type with a variable", x.parent(6, read(x, "C<g0,A>.E")), -102);
-        due("the same", x.parent(2, read(x, "C<c1,c0>")), -107);
-        due("a greater", x.parent(2, read(x, "D")), -107);
-        due("a class of an interface", x.parent(6, read(x, "D")), -108);
-        due("an interface of an interface", x.parent(6, read(x, "B<g0>")), 1);
+        due("of another's variable", x.parent(2, x.read("B<b0>")), -102);
+        due("an outer type with a variable", x.parent(6, x.read("C<g0,A>.E")), -102);
+        due("the same", x.parent(2, x.read("C<c1,c0>")), -107);
+        due("a greater", x.parent(2, x.read("D")), -107);
+        due("a class of an interface", x.parent(6, x.read("D")), -108);
+        due("an interface of an interface", x.parent(6, x.read("B<g0>")), 1);
         due("OBJECT of an interface", x.parent(6, OBJECT), -108);
         due("a class of a class", x.parent(3, OBJECT), 1);
         due("a second class", x.parent(3, OBJECT), -108);
-        int b = read(x, "B<D>");
+        int b = x.read("B<D>");
         due("an interface second", x.parent(3, b), 2);
         due("third", x.parent(3, b), 3);
         due("fourth", x.parent(3, b), ROOM);
         due("an interface first", x.parent(2, b), 1);
-        due("a class of an exception", x.parent(5, read(x, "D")), 1);
+        due("a class of an exception", x.parent(5, x.read("D")), 1);
         due("parents", x.count(23) * 10 + x.count(22), 31);
     }
 
     private static void argument() {
-        TypeForms2 x = world();
+        Calls x = Calls.world();
         due("unknown", x.argument(EXACT, 200), UNKNOWN);
         due("unknown and outside", x.argument(4, -1), UNKNOWN);
         due("outside", x.argument(4, 0), OUTSIDE);
@@ -227,7 +176,7 @@ public final class PromisesTest {
     }
 
     private static void make() {
-        TypeForms2 x = world();
+        Calls x = Calls.world();
         x.argument(EXACT, 10);
         due("unknown", x.make(6, NONE), UNKNOWN);
         due("draft taken", x.count(2), 0);
@@ -244,25 +193,25 @@ public final class PromisesTest {
         int raw = x.make(2, NONE);
         x.argument(EXACT, 10);
         due("arguments in a raw one", x.make(4, raw), -112);
-        due("raw in a raw one", text(x, x.make(4, raw)), "C.E");
-        int c = read(x, "C<A,?>");
+        due("raw in a raw one", x.text(x.make(4, raw)), "C.E");
+        int c = x.read("C<A,?>");
         x.argument(FROM, 11);
         int e = x.make(4, c);
-        due("inner", text(x, e), "C<A,?>.E<-b0>");
-        due("raw in one with arguments", text(x, x.make(4, c)), "C<A,?>.E");
+        due("inner", x.text(e), "C<A,?>.E<-b0>");
+        due("raw in one with arguments", x.text(x.make(4, c)), "C<A,?>.E");
         x.argument(FROM, 11);
         due("the same again", x.make(4, c), e);
         madeBounds();
-        TypeForms2 full = world();
-        int b = read(full, "B<A>");
-        fill(full, 200);
+        Calls full = Calls.world();
+        int b = full.read("B<A>");
+        full.fill(200);
         full.argument(EXACT, 10);
         due("there already", full.make(1, NONE), b);
         full.argument(ANY, 10);
         due("no room", full.make(1, NONE), ROOM);
         due("draft taken then", full.count(2), 0);
         due("refused before room", full.make(4, NONE), -111);
-        TypeForms2 large = new TypeForms2();
+        Calls large = new Calls();
         large.declare(CLASS, 1, NONE);
         int node = OBJECT;
         for (int size = 2; size <= 60; size++) {
@@ -276,76 +225,76 @@ public final class PromisesTest {
     }
 
     private static void madeBounds() {
-        TypeForms2 x = world();
-        int d = read(x, "D");
-        x.parent(3, read(x, "B<D>"));
-        x.bound(2, 0, read(x, "B<c0>"));
+        Calls x = Calls.world();
+        int d = x.read("D");
+        x.parent(3, x.read("B<D>"));
+        x.bound(2, 0, x.read("B<c0>"));
         x.bound(2, 1, 12);
         x.argument(EXACT, d);
         x.argument(EXACT, d);
-        due("D is a B<D>", text(x, x.make(2, NONE)), "C<D,D>");
+        due("D is a B<D>", x.text(x.make(2, NONE)), "C<D,D>");
         x.argument(EXACT, OBJECT);
         x.argument(EXACT, d);
         due("OBJECT is none", x.make(2, NONE), -113);
         x.argument(UP_TO, OBJECT);
         x.argument(EXACT, d);
-        due("up to is not looked at", text(x, x.make(2, NONE)), "C<+A,D>");
+        due("up to is not looked at", x.text(x.make(2, NONE)), "C<+A,D>");
         x.argument(ANY, 0);
         x.argument(EXACT, d);
-        due("any: the variable erased", text(x, x.make(2, NONE)), "C<?,D>");
+        due("any: the variable erased", x.text(x.make(2, NONE)), "C<?,D>");
         x.argument(ANY, 0);
         x.argument(EXACT, OBJECT);
         due("OBJECT is not the erased one", x.make(2, NONE), -113);
-        x.argument(EXACT, read(x, "B"));
-        x.argument(EXACT, read(x, "B"));
-        due("unchecked is enough", text(x, x.make(2, NONE)), "C<B,B>");
-        x.bound(4, 0, read(x, "D"));
-        x.bound(4, 0, read(x, "B<A>"));
+        x.argument(EXACT, x.read("B"));
+        x.argument(EXACT, x.read("B"));
+        due("unchecked is enough", x.text(x.make(2, NONE)), "C<B,B>");
+        x.bound(4, 0, x.read("D"));
+        x.bound(4, 0, x.read("B<A>"));
         x.argument(EXACT, d);
-        due("below one bound only", x.make(4, read(x, "C<D,D>")), -113);
+        due("below one bound only", x.make(4, x.read("C<D,D>")), -113);
     }
 
     private static void array() {
-        TypeForms2 x = world();
-        due("int[]", text(x, x.array(4)), "4[]");
+        Calls x = Calls.world();
+        due("int[]", x.text(x.array(4)), "4[]");
         due("the same", x.array(4), x.array(4));
-        due("b0[]", text(x, x.array(11)), "b0[]");
-        due("int[][]", text(x, x.array(x.array(4))), "4[][]");
+        due("b0[]", x.text(x.array(11)), "b0[]");
+        due("int[][]", x.text(x.array(x.array(4))), "4[][]");
         due("of VOID", x.array(VOID), -114);
         due("of NULL", x.array(NULL), -114);
         due("of none", x.array(-1), UNKNOWN);
         due("of none above", x.array(x.count(1)), UNKNOWN);
-        fill(x, 200);
+        x.fill(200);
         due("no room", x.array(OBJECT), ROOM);
     }
 
     private static void aboutNodes() {
-        TypeForms2 x = world();
-        int node = read(x, "C<+b0[],?>.E<-A>");
+        Calls x = Calls.world();
+        int node = x.read("C<+b0[],?>.E<-A>");
         int outer = x.about(node, 4);
         int[] inner = {5, 4, -1, -1, outer, 1, FROM, -1, -1, OBJECT, -1, -1, 0};
-        int[] around = {5, 2, -1, -1, -1, 2, UP_TO, ANY, -1, read(x, "b0[]"), -1, -1, 0};
+        int[] around = {5, 2, -1, -1, -1, 2, UP_TO, ANY, -1, x.read("b0[]"), -1, -1, 0};
         int[] array = {4, -1, -1, 11, -1, 0, -1, -1, -1, -1, -1, -1, 0};
         int[] variable = {3, 2, 1, -1, -1, 0, -1, -1, -1, -1, -1, -1, 0};
-        int[] raw = {5, 5, -1, -1, read(x, "C.E"), 0, -1, -1, -1, -1, -1, -1, 1};
+        int[] raw = {5, 5, -1, -1, x.read("C.E"), 0, -1, -1, -1, -1, -1, -1, 1};
         int[] bool = {0, -1, -1, -1, -1, 0, -1, -1, -1, -1, -1, -1, 0};
-        int[] nodes = {node, outer, read(x, "b0[]"), 13, read(x, "C.E.F"), 0};
+        int[] nodes = {node, outer, x.read("b0[]"), 13, x.read("C.E.F"), 0};
         int[][] all = {inner, around, array, variable, raw, bool};
         for (int i = 0; i < all.length; i++) {
             for (int what = 0; what <= 12; what++) {
-                due("about " + text(x, nodes[i]) + ", " + what, x.about(nodes[i], what), all[i][what]);
+                due("about " + nodes[i] + ", " + what, x.about(nodes[i], what), all[i][what]);
             }
         }
-        due("raw by no arguments", x.about(read(x, "C<A,A>.E"), 12), 1);
-        due("not raw", x.about(read(x, "C<A,A>.E<?>.F"), 12), 0);
-        due("an array of raw", x.about(read(x, "B[]"), 12), 0);
+        due("raw by no arguments", x.about(x.read("C<A,A>.E"), 12), 1);
+        due("not raw", x.about(x.read("C<A,A>.E<?>.F"), 12), 0);
+        due("an array of raw", x.about(x.read("B[]"), 12), 0);
         due("what 13", x.about(10, 13), UNKNOWN);
         due("what -1", x.about(10, -1), UNKNOWN);
         due("no node", x.about(x.count(1), 0), UNKNOWN);
     }
 
     private static void belowPlain() {
-        TypeForms2 x = world();
+        Calls x = Calls.world();
         String[] rows = {"1.......", ".11.1111", "..1.1111", "...11111", "....1111", ".....111", "......11", ".......1"};
         for (int a = 0; a < 8; a++) {
             for (int b = 0; b < 8; b++) {
@@ -384,7 +333,7 @@ public final class PromisesTest {
     }
 
     private static void belowClasses() {
-        TypeForms2 x = world();
+        Calls x = Calls.world();
         below(x, "B", "B<A>", 2);
         below(x, "B<A>", "B", 1);
         below(x, "B[]", "B<A>[]", 2);
@@ -427,10 +376,10 @@ public final class PromisesTest {
     }
 
     private static void belowBounds() {
-        TypeForms2 x = world();
+        Calls x = Calls.world();
         due("c0 by c1", x.bound(2, 0, 13), 1);
-        due("c1 by B", x.bound(2, 1, read(x, "B")), 1);
-        due("c1 by B<D>", x.bound(2, 1, read(x, "B<D>")), 2);
+        due("c1 by B", x.bound(2, 1, x.read("B")), 1);
+        due("c1 by B<D>", x.bound(2, 1, x.read("B<D>")), 2);
         below(x, "c0", "c1", 1);
         below(x, "c1", "c0", 0);
         below(x, "c0", "B", 1);
@@ -438,17 +387,17 @@ public final class PromisesTest {
         below(x, "c0[]", "B<A>[]", 2);
         below(x, "c0", "D", 0);
         below(x, "B<c0>", "B<+c1>", 1);
-        TypeForms2 y = world();
-        y.bound(2, 1, read(y, "B<D>"));
-        y.bound(2, 1, read(y, "B"));
+        Calls y = Calls.world();
+        y.bound(2, 1, y.read("B<D>"));
+        y.bound(2, 1, y.read("B"));
         below(y, "c1", "B<A>", 2);
         below(y, "c1", "B<D>", 1);
     }
 
     private static void belowParents() {
-        TypeForms2 x = world();
-        x.parent(2, read(x, "B<c1>"));
-        x.parent(3, read(x, "C<D,B>"));
+        Calls x = Calls.world();
+        x.parent(2, x.read("B<c1>"));
+        x.parent(3, x.read("C<D,B>"));
         below(x, "C<A,D>", "B<D>", 1);
         below(x, "C<A,D>", "B<A>", 0);
         below(x, "C<A,?>", "B<?>", 1);
@@ -462,7 +411,7 @@ public final class PromisesTest {
     }
 
     private static void erased() {
-        TypeForms2 x = world();
+        Calls x = Calls.world();
         due("unknown", x.erased(x.count(1)), UNKNOWN);
         due("unknown below", x.erased(-1), UNKNOWN);
         for (int i = 0; i <= OBJECT; i++) {
@@ -474,62 +423,62 @@ public final class PromisesTest {
         erased(x, "C<A,A>.E<A>.F[][]", "C.E.F[][]");
         erased(x, "C<A,A>.E", "C.E");
         x.bound(2, 0, 13);
-        x.bound(2, 1, read(x, "C<c0,c1>"));
-        x.bound(2, 1, read(x, "B<A>"));
+        x.bound(2, 1, x.read("C<c0,c1>"));
+        x.bound(2, 1, x.read("B<A>"));
         erased(x, "c0", "C");
         erased(x, "c1[]", "C[]");
-        TypeForms2 chain = new TypeForms2();
+        Calls chain = new Calls();
         chain.declare(CLASS, 3, NONE);
         chain.bound(1, 0, 12);
         chain.bound(1, 1, 13);
-        chain.bound(1, 2, read(chain, "B<b0,b1,b2>"));
+        chain.bound(1, 2, chain.read("B<b0,b1,b2>"));
         erased(chain, "b0", "B");
-        TypeForms2 order = world();
-        int node = read(order, "C<A,A>.E<A>.F");
+        Calls order = Calls.world();
+        int node = order.read("C<A,A>.E<A>.F");
         int before = order.count(1);
         due("parts ahead", order.erased(node), before + 2);
-        due("C first", text(order, before), "C");
-        due("C.E next", text(order, before + 1), "C.E");
-        TypeForms2 full = world();
-        int inner = read(full, "C<A,A>.E<A>.F");
-        fill(full, 198);
+        due("C first", order.text(before), "C");
+        due("C.E next", order.text(before + 1), "C.E");
+        Calls full = Calls.world();
+        int inner = full.read("C<A,A>.E<A>.F");
+        full.fill(198);
         due("no room", full.erased(inner), ROOM);
         due("none came", full.count(1), 198);
-        due("two have room", text(full, full.erased(read(full, "C<A,A>.E<A>"))), "C.E");
+        due("two have room", full.text(full.erased(full.read("C<A,A>.E<A>"))), "C.E");
     }
 
     private static void whole() {
-        TypeForms2 x = world();
+        Calls x = Calls.world();
         for (int i = 0; i <= OBJECT; i++) {
             due("whole " + i, x.whole(i), 1);
         }
         String[] wholes = {"4[]", "A[][]", "B", "B[]", "B<?>", "C<?,?>[]", "C<?,?>.E<?>", "C<?,?>.E<?>.F", "C.E",
             "C<A,A>.E"};
         for (String s : wholes) {
-            due("whole " + s, x.whole(read(x, s)), 1);
+            due("whole " + s, x.whole(x.read(s)), 1);
         }
         String[] others = {"b0", "b0[]", "B<A>", "B<+A>", "C<?,A>", "C<?,-A>[]", "C<A,?>.E<?>", "C<?,?>.E<A>.F",
             "C<A,?>.E<?>.F"};
         for (String s : others) {
-            due("whole " + s, x.whole(read(x, s)), 0);
+            due("whole " + s, x.whole(x.read(s)), 0);
         }
         due("unknown", x.whole(x.count(1)), UNKNOWN);
         due("unknown below", x.whole(-1), UNKNOWN);
     }
 
     private static void aboves() {
-        TypeForms2 x = world();
+        Calls x = Calls.world();
         x.declare(INTERFACE, 1, NONE);
         x.declare(CLASS, 3, NONE);
-        x.parent(2, read(x, "B<c1>"));
-        x.parent(6, read(x, "B<D>"));
-        x.parent(6, read(x, "B<g0>"));
-        x.parent(7, read(x, "C<h2,h0>"));
-        x.parent(7, read(x, "G<h1>"));
+        x.parent(2, x.read("B<c1>"));
+        x.parent(6, x.read("B<D>"));
+        x.parent(6, x.read("B<g0>"));
+        x.parent(7, x.read("C<h2,h0>"));
+        x.parent(7, x.read("G<h1>"));
         due("unknown", x.above(x.count(1), 0), UNKNOWN);
         due("unknown declaration", x.above(10, 8), UNKNOWN);
         due("a variable", x.above(11, 1), UNKNOWN);
-        due("an array", x.above(read(x, "A[]"), 0), UNKNOWN);
+        due("an array", x.above(x.read("A[]"), 0), UNKNOWN);
         due("NULL", x.above(NULL, 0), UNKNOWN);
         due("itself", x.above(10, 0), 10);
         above(x, "B<A>", 0, "-1");
@@ -541,26 +490,26 @@ public final class PromisesTest {
         above(x, "H<A,D,?>", 1, "B<A>");
         above(x, "H<A,D,?>", 6, "G<D>");
         above(x, "H", 1, "B");
-        TypeForms2 large = new TypeForms2();
+        Calls large = new Calls();
         large.declare(INTERFACE, 3, NONE);
         large.declare(INTERFACE, 1, NONE);
         large.declare(INTERFACE, 1, NONE);
-        large.parent(2, read(large, "B<c0,c0,c0>"));
-        large.parent(3, read(large, "C<d0>"));
+        large.parent(2, large.read("B<c0,c0,c0>"));
+        large.parent(3, large.read("C<d0>"));
         above(large, "D<A" + "[]".repeat(18) + ">", 1, "B<" + ("A" + "[]".repeat(18) + ",").repeat(2)
                 + "A" + "[]".repeat(18) + ">");
         int nodes = large.count(1);
-        due("too large", large.above(read(large, "D<A" + "[]".repeat(19) + ">"), 1), ROOM);
+        due("too large", large.above(large.read("D<A" + "[]".repeat(19) + ">"), 1), ROOM);
         due("only what was read came", large.count(1), nodes + 2);
     }
 
     private static void members() {
-        TypeForms2 x = world();
+        Calls x = Calls.world();
         due("unknown", x.member(x.count(1), 10), UNKNOWN);
         due("unknown by", x.member(10, x.count(1)), UNKNOWN);
         due("by a variable", x.member(10, 11), UNKNOWN);
-        due("by an array", x.member(10, read(x, "A[]")), UNKNOWN);
-        x.bound(1, 0, read(x, "D"));
+        due("by an array", x.member(10, x.read("A[]")), UNKNOWN);
+        x.bound(1, 0, x.read("D"));
         member(x, "b0", "B<D>", "D");
         member(x, "b0", "B<+A>", "A");
         member(x, "b0", "B<-A>", "D");
@@ -584,25 +533,25 @@ public final class PromisesTest {
         member(x, "C<e0,c1>.E<c0>", "C<D,+A>.E<A>.F", "C<A,+A>.E<D>");
         member(x, "C<e0,c1>.E<c0>", "C<D,A>.E.F", "C.E");
         member(x, "4", "B", "4");
-        TypeForms2 large = new TypeForms2();
+        Calls large = new Calls();
         large.declare(CLASS, 1, NONE);
         int nodes = 12;
-        due("30 dimensions", read(large, "b0" + "[]".repeat(30)), nodes + 29);
-        int by = read(large, "B<A" + "[]".repeat(28) + ">");
+        due("30 dimensions", large.read("b0" + "[]".repeat(30)), nodes + 29);
+        int by = large.read("B<A" + "[]".repeat(28) + ">");
         due("size 59", large.about(large.member(nodes + 29, by), 0), 4);
-        by = read(large, "B<A" + "[]".repeat(30) + ">");
+        by = large.read("B<A" + "[]".repeat(30) + ">");
         nodes = large.count(1);
         due("size 61", large.member(41, by), ROOM);
         due("none came", large.count(1), nodes);
     }
 
     private static void feed() {
-        TypeForms2 x = new TypeForms2();
+        Calls x = new Calls();
         due("none", x.feed(0, 52), OUTSIDE);
         due("nine", x.feed(9, 52), OUTSIDE);
         due("many", x.feed(Integer.MIN_VALUE, 52), OUTSIDE);
         due("three of eight", x.feed(3, 0x7777777777345B5DL), 3);
-        due("4[]", text(x, x.read()), "4[]");
+        due("4[]", x.text(x.read()), "4[]");
         due("taken", x.count(3), 0);
         due("a high byte", x.feed(1, -1), 1);
         due("no such letter", x.read(), -10);
@@ -617,16 +566,16 @@ public final class PromisesTest {
     }
 
     private static void reads() {
-        TypeForms2 x = world();
-        due("parts ahead, in order", read(x, "C<+B<D>,-4[]>.E<B<A>[]>"), 21);
+        Calls x = Calls.world();
+        due("parts ahead, in order", x.read("C<+B<D>,-4[]>.E<B<A>[]>"), 21);
         String[] parts = {"D", "B<D>", "4[]", "C<+B<D>,-4[]>", "B<A>", "B<A>[]"};
         for (int i = 0; i < parts.length; i++) {
-            due("part " + i, text(x, 15 + i), parts[i]);
+            due("part " + i, x.text(15 + i), parts[i]);
         }
         for (int i = 0; i <= 9; i++) {
-            due("digit", read(x, "" + i), i);
+            due("digit", x.read("" + i), i);
         }
-        due("variable", read(x, "c1"), 13);
+        due("variable", x.read("c1"), 13);
         Object[][] faults = {
             {"", 0}, {"4x", 1}, {"4[", 2}, {"4[4", 2}, {"4[]]", 3}, {"8[]", 1}, {"9[", 1}, {"x", 0}, {"m0", 0},
             {"g0", 0}, {"G", 0}, {"b", 1}, {"b1", 1}, {"b<", 1}, {"a0", 1}, {"c2", 1}, {"b0.D", 2}, {"4.D", 1},
@@ -637,37 +586,37 @@ public final class PromisesTest {
             {"+A", 0}, {"?", 0}, {"B<+", 3}, {"B<4[]", 5}, {"C<B<A,A>,", 2}, {"C<A,E>x", 4}, {"A ", 1}, {" A", 0}};
         int nodes = x.count(1);
         for (Object[] row : faults) {
-            due("fault of " + row[0], read(x, (String) row[0]), -10 - (int) row[1]);
+            due("fault of " + row[0], x.read((String) row[0]), -10 - (int) row[1]);
             due("tape taken", x.count(3), 0);
         }
         due("no node came", x.count(1), nodes);
-        TypeForms2 last = new TypeForms2();
+        Calls last = new Calls();
         for (int i = 1; i < 12; i++) {
             last.declare(CLASS, i == 11 ? 3 : 0, NONE);
         }
-        due("the last declaration", text(last, read(last, "L<l2,l0,l1>")), "L<l2,l0,l1>");
-        due("one more letter", read(last, "M"), -10);
-        x.bound(1, 0, read(x, "D"));
-        due("below no bound", read(x, "B<B<A>>!"), -12);
-        fill(x, 199);
-        due("room for one", read(x, "D[]"), 199);
-        due("no room", read(x, "A[]"), ROOM);
+        due("the last declaration", last.text(last.read("L<l2,l0,l1>")), "L<l2,l0,l1>");
+        due("one more letter", last.read("M"), -10);
+        x.bound(1, 0, x.read("D"));
+        due("below no bound", x.read("B<B<A>>!"), -12);
+        x.fill(199);
+        due("room for one", x.read("D[]"), 199);
+        due("no room", x.read("A[]"), ROOM);
         due("tape taken then", x.count(3), 0);
-        due("fault before room", read(x, "A[]["), -14);
-        due("there already", read(x, "D[]"), 199);
+        due("fault before room", x.read("A[]["), -14);
+        due("there already", x.read("D[]"), 199);
     }
 
     private static void prints() {
-        TypeForms2 x = world();
+        Calls x = Calls.world();
         String[] texts = {"0", "8", "9", "A", "b0", "c1[]", "B", "B<?>", "C<+A,-b0>", "C<A,A>.E<4[][]>.F[]", "C.E.F"};
         for (String s : texts) {
-            due("printed", text(x, read(x, s)), s);
+            due("printed", x.text(x.read(s)), s);
             due("length", x.count(4), s.length());
         }
         due("unknown", x.print(x.count(1)), UNKNOWN);
         due("unknown below", x.print(-1), UNKNOWN);
         due("OUT stays", x.count(4), 5);
-        TypeForms2 y = new TypeForms2();
+        Calls y = new Calls();
         y.declare(CLASS, 1, NONE);
         int node = 11;
         for (int i = 0; i < 49; i++) {
@@ -682,9 +631,9 @@ public final class PromisesTest {
     }
 
     private static void outs() {
-        TypeForms2 x = world();
+        Calls x = Calls.world();
         due("empty", x.out(0), NONE);
-        x.print(read(x, "B<?>"));
+        x.print(x.read("B<?>"));
         int[] bytes = {'B', '<', '?', '>'};
         for (int i = 0; i < 4; i++) {
             due("byte " + i, x.out(i), bytes[i]);
@@ -698,10 +647,10 @@ public final class PromisesTest {
     }
 
     private static void counts() {
-        TypeForms2 x = world();
+        Calls x = Calls.world();
         x.bound(2, 0, 13);
-        x.bound(2, 1, read(x, "B<A>"));
-        x.parent(2, read(x, "B<A>"));
+        x.bound(2, 1, x.read("B<A>"));
+        x.parent(2, x.read("B<A>"));
         x.argument(ANY, 0);
         x.feed(2, 0);
         x.print(13);
@@ -715,7 +664,7 @@ public final class PromisesTest {
         }
         due("count -1", x.count(-1), UNKNOWN);
         due("count of the least", x.count(Integer.MIN_VALUE), UNKNOWN);
-        TypeForms2 y = new TypeForms2();
+        Calls y = new Calls();
         for (int i = 1; i < 12; i++) {
             y.declare(INTERFACE, 0, NONE);
         }
@@ -727,7 +676,7 @@ public final class PromisesTest {
 
     public static void main(String[] args) {
         for (int promise = 1; promise <= 19; promise++) {
-            about = "promise " + promise;
+            Check.about("promise " + promise);
             switch (promise) {
                 case 1 -> newObject();
                 case 2 -> declare();
@@ -753,9 +702,6 @@ public final class PromisesTest {
                 default -> counts();
             }
         }
-        System.out.println(wrong == 0 ? "all answers are as due" : wrong + " answers are not as due");
-        if (wrong != 0) {
-            System.exit(1);
-        }
+        Check.end();
     }
 }
