@@ -274,7 +274,6 @@ public final class TypeForms2 {
             outer[OBJECT] = NONE;
             within[OBJECT] = 1;
             firstVariable[OBJECT] = NONE;
-            ancestors[OBJECT] = 1;
             number = 1;
         }
 
@@ -300,7 +299,6 @@ public final class TypeForms2 {
             outer[added] = newOuter;
             within[added] = 1 << added | (has(newOuter) ? within[newOuter] : 0);
             firstVariable[added] = variables;
-            ancestors[added] = 1 << added;
             number++;
             return added;
         }

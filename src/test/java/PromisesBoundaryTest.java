@@ -1,7 +1,7 @@
 import java.util.function.IntUnaryOperator;
 import java.util.function.ToIntFunction;
 
-/** The boundary cases of each promise: the last value taken, the first refused, and that a refused call changes nothing. */
+/** The boundary cases of each promise: the last value taken, the first refused, and that nothing changes then. */
 public final class PromisesBoundaryTest {
     private static final int NONE = -1, UNKNOWN = -2, OUTSIDE = -3, ROOM = -5;
     private static final int CLASS = 0, INTERFACE = 1, EXCEPTION = 2;
@@ -769,8 +769,8 @@ public final class PromisesBoundaryTest {
         due("PARENTS of the one before", x.count(30), 0);
     }
 
-    private static final int[] NUMBERS = {LEAST, LEAST + 1, -200, -13, -5, -4, -3, -2, -1, 0, 1, 2, 3, 4, 5, 8, 9, 10, 11,
-        12, 13, 15, 17, 20, 31, 60, 61, 99, 100, 199, 200, 201, 511, 512, 1 << 16, 1 << 30, MOST - 1, MOST};
+    private static final int[] NUMBERS = {LEAST, LEAST + 1, -200, -13, -5, -4, -3, -2, -1, 0, 1, 2, 3, 4, 5, 8, 9, 10,
+        11, 12, 13, 15, 17, 20, 31, 60, 61, 99, 100, 199, 200, 201, 511, 512, 1 << 16, 1 << 30, MOST - 1, MOST};
 
     private static int ask(Calls x, int call, int a, int b) {
         switch (call) {

@@ -204,7 +204,8 @@ public final class TermsBoundaryTest {
     }
 
     /** A call that needs some new NODES: with room for just these, and with room for one less. */
-    private static void roomFor(String name, int need, ToIntFunction<Calls> prepared, IntFunction<ToIntFunction<Calls>> call) {
+    private static void roomFor(String name, int need, ToIntFunction<Calls> prepared,
+            IntFunction<ToIntFunction<Calls>> call) {
         Calls x = Calls.world();
         int with = prepared.applyAsInt(x);
         x.fill(200 - need);
@@ -260,6 +261,59 @@ public final class TermsBoundaryTest {
         due("NODES", x.count(1), 200);
         due("the last one", x.about(199, 0), 4);
         due("none behind it", x.about(200, 0), UNKNOWN);
+    }
+
+    /** A refusal for lack of ROOM is one call's; what is there is answered by the next. */
+    private static void roomIsRefusedToOneCallOnly() {
+        Calls x = Calls.world();
+        due("PARENT", x.parent(2, x.read("B<c1>")), 1);
+        int array = x.read("D[]");
+        int raw = x.read("B");
+        int node = x.read("B<D>");
+        int by = x.read("C<?,D>");
+        int d = x.read("D");
+        x.fill(200);
+        ToIntFunction<Calls> refusing = y -> y.read("C<D[],D[]>.E<B<B>>");
+        due("refused", refusing.applyAsInt(x), ROOM);
+        due("array", x.array(d), array);
+        due("refused", refusing.applyAsInt(x), ROOM);
+        due("erased", x.erased(node), raw);
+        due("refused", refusing.applyAsInt(x), ROOM);
+        due("above", x.above(by, 1), node);
+        due("refused", refusing.applyAsInt(x), ROOM);
+        due("member", x.member(11, node), d);
+        due("refused", refusing.applyAsInt(x), ROOM);
+        due("argument", x.argument(EXACT, d), 1);
+        due("make", x.make(1, NONE), node);
+        due("refused", refusing.applyAsInt(x), ROOM);
+        due("read", x.read("C<?,D>"), by);
+        due("refused", refusing.applyAsInt(x), ROOM);
+        due("below", x.below(by, node), 1);
+        due("refused", refusing.applyAsInt(x), ROOM);
+        due("declare", x.declare(CLASS, 0, NONE), 6);
+    }
+
+    /** NODES that had no ROOM leave nothing behind in those that come in their places. */
+    private static void placesOfRefusedNodesAreFree() {
+        for (int free = 1; free <= 3; free++) {
+            Calls x = Calls.world();
+            int inner = x.read("C<A,+B<?>>.E<A>.F");
+            x.fill(200 - free);
+            due("refused", x.erased(inner), free < 3 ? ROOM : 199);
+            Calls y = Calls.world();
+            y.read("C<A,+B<?>>.E<A>.F");
+            y.fill(200 - free);
+            due("refused", y.read("C.E.F[]"), ROOM);
+            due("VARIABLES", y.declare(CLASS, free, NONE), 6);
+            int[] facts = {3, 6, free - 1, NONE, NONE, 0, NONE, NONE, NONE, NONE, NONE, NONE, 0};
+            for (int what = 0; what < facts.length; what++) {
+                due("about the last VARIABLE, " + what, y.about(199, what), facts[what]);
+            }
+            due("TEXT", y.text(199), "g" + (free - 1));
+            due("not whole", y.whole(199), 0);
+            due("not a BOUND of another's", y.bound(2, 0, 199), -102);
+            due("ERASED", y.erased(199), OBJECT);
+        }
     }
 
     private static void sizesAre60() {
@@ -521,6 +575,55 @@ public final class TermsBoundaryTest {
         due("not below", x.below(x.read("L"), x.read("B")), 0);
     }
 
+    /** B .. L, each with a PARAMETER, in one another. */
+    private static Calls nested() {
+        Calls x = new Calls();
+        for (int d = 1; d < 12; d++) {
+            due("declare", x.declare(CLASS, 1, d - 1), d);
+        }
+        return x;
+    }
+
+    private static String nest(String first, String others) {
+        StringBuilder s = new StringBuilder("A.B").append(first);
+        for (char c = 'C'; c <= 'L'; c++) {
+            s.append('.').append(c).append(others);
+        }
+        return s.toString();
+    }
+
+    private static void outerTypesGoOnToTheLast() {
+        Calls x = nested();
+        int any = x.read(nest("<?>", "<?>"));
+        int told = x.read(nest("<+4[]>", "<?>"));
+        due("all are ANY", x.whole(any), 1);
+        due("the outermost is not ANY", x.whole(told), 0);
+        due("the outermost tells", x.text(x.member(x.read("b0"), told)), "4[]");
+        due("the outermost tells an ARGUMENT", x.text(x.member(x.read("A.B<b0>"), told)), "A.B<+4[]>");
+        due("by ANY it is ERASED", x.member(x.read("b0"), any), OBJECT);
+        due("below, the outermost is another", x.below(told, any), 0);
+        due("not RAW", x.about(any, 12), 0);
+        int raw = x.erased(told);
+        due("ERASED up to the outermost", x.text(raw), nest("", ""));
+        due("RAW by the outermost", x.about(raw, 12), 1);
+        due("below what is RAW", x.below(told, raw), 1);
+        due("RAW is UNCHECKED", x.below(raw, told), 2);
+        due("RAW is whole", x.whole(raw), 1);
+        due("ARGUMENTS in what is RAW", x.read("A.B.C<?>"), -14);
+        due("others stay", x.member(x.read("c0"), x.read("A.B<A>")), x.read("c0"));
+    }
+
+    private static void argumentsAreInOneAnother() {
+        String[] in = {"D", "+D", "-D", "?", "A", "+A", "-A"};
+        String[] rows = {"1111.1.", ".1.1.1.", "..11...", "...1...", "..11111", "...1.1.", "..11..1"};
+        for (int i = 0; i < in.length; i++) {
+            Calls x = Calls.world();
+            for (int k = 0; k < in.length; k++) {
+                below(x, "B<" + in[i] + ">", "B<" + in[k] + ">", rows[i].charAt(k) == '1' ? 1 : 0);
+            }
+        }
+    }
+
     private static void belowIsFourDeepAtMost() {
         Calls x = Calls.world();
         below(x, "D" + dimensions(4), "A" + dimensions(4), 1);
@@ -564,6 +667,40 @@ public final class TermsBoundaryTest {
         below(x, "b0[][][]", "b2[][][]", 0);
         below(x, "C<b0>", "C<+C<?>>", 1);
         below(x, "C<C<b0>>", "C<+C<+C<?>>>", 0);
+    }
+
+    /** B .. L: each with three PARAMETERS, a PARENT of the one before, and RULE 13 asked for each part that is read. */
+    private static Calls dear() {
+        Calls x = new Calls();
+        due("B", x.declare(INTERFACE, 3, NONE), 1);
+        for (int d = 2; d < 12; d++) {
+            due("declare", x.declare(INTERFACE, 3, NONE), d);
+            x.argument(EXACT, x.variable(d, 2));
+            x.argument(EXACT, x.variable(d, 0));
+            x.argument(EXACT, x.variable(d, 1));
+            due("PARENT", x.parent(d, x.make(d - 1, NONE)), 1);
+        }
+        String bound = "B<+B<+B<+B<+A,?,?>,?,?>,?,?>,?,?>";
+        for (int place = 0; place < 3; place++) {
+            for (int i = 1; i <= 3; i++) {
+                due("BOUND", x.bound(11, place, x.read(bound)), i);
+            }
+        }
+        return x;
+    }
+
+    /** The dearest calls: each of ten PARENTS is PUT IN, at each of four depths, for each of nine BOUNDS. */
+    private static void belowOfTheLongestChains() {
+        Calls x = dear();
+        String part = "K<K<K<K<A,?,?>,?,?>,?,?>,?,?>";
+        String text = "L<" + part + "," + part + "," + part + ">";
+        due("bytes", text.length(), 92);
+        due("read", x.text(x.read(text)), text);
+        String low = "K<K<K<K<?,?,?>,?,?>,?,?>,?,?>";
+        due("ANY is not UP TO OBJECT", x.read("L<" + part + "," + part + "," + low + ">"), -10);
+        int a = x.read("K<" + part + ",?,?>");
+        due("five deep", x.below(a, x.read("B<+B<+B<+B<+B<+A,?,?>,?,?>,?,?>,?,?>,?,?>")), 0);
+        due("four deep", x.below(a, x.read("B<+B<+B<+B<+B<A,?,?>,?,?>,?,?>,?,?>,?,?>")), 1);
     }
 
     /** RULE 13 asks anew: what is asked there is not within another BELOW. */
@@ -748,7 +885,8 @@ public final class TermsBoundaryTest {
         run("TYPES", TermsBoundaryTest::typesAreTheseNumbers, TermsBoundaryTest::argumentsAreAsManyAsParametersOrNone,
                 TermsBoundaryTest::rawByAnOuterType);
         run("NODES", TermsBoundaryTest::equalNodesAreOne, TermsBoundaryTest::partsComeAheadInOrder,
-                TermsBoundaryTest::nodesAre200, TermsBoundaryTest::fullIsNoRefusalOfWhatIsThere);
+                TermsBoundaryTest::nodesAre200, TermsBoundaryTest::fullIsNoRefusalOfWhatIsThere,
+                TermsBoundaryTest::roomIsRefusedToOneCallOnly, TermsBoundaryTest::placesOfRefusedNodesAreFree);
         run("SIZE", TermsBoundaryTest::sizesAre60, TermsBoundaryTest::sizesAre60OfWhatIsErased,
                 TermsBoundaryTest::sizesAre60OfWhatIsAbove, TermsBoundaryTest::sizesAre60OfWhatIsPutIn,
                 TermsBoundaryTest::sizeCountsPartsAsOftenAsTheyStandThere, TermsBoundaryTest::outerTypesAreParts,
@@ -757,9 +895,10 @@ public final class TermsBoundaryTest {
                 TermsBoundaryTest::boundsAreAsTold, TermsBoundaryTest::parentsAreAsTold,
                 TermsBoundaryTest::aVariableAsABoundIsAlone);
         run("ERASED and SUPER", TermsBoundaryTest::erasedWithoutBounds, TermsBoundaryTest::superOfTheLongestChain,
-                TermsBoundaryTest::superOfTheWidestTree);
-        run("BELOW", TermsBoundaryTest::belowIsFourDeepAtMost, TermsBoundaryTest::boundsAreOneDeeperEach,
-                TermsBoundaryTest::boundsOfWhatIsMadeAreAskedFirst);
+                TermsBoundaryTest::superOfTheWidestTree, TermsBoundaryTest::outerTypesGoOnToTheLast);
+        run("BELOW", TermsBoundaryTest::argumentsAreInOneAnother, TermsBoundaryTest::belowIsFourDeepAtMost,
+                TermsBoundaryTest::boundsAreOneDeeperEach, TermsBoundaryTest::boundsOfWhatIsMadeAreAskedFirst,
+                TermsBoundaryTest::belowOfTheLongestChains);
         run("TEXT", TermsBoundaryTest::bytesOfATextsBegin, TermsBoundaryTest::bytesOfArrays,
                 TermsBoundaryTest::bytesOfClassTypes, TermsBoundaryTest::lettersOfAllTwelve,
                 TermsBoundaryTest::argumentsOfATextAreThree, TermsBoundaryTest::textsOf100Bytes);
