@@ -428,6 +428,12 @@ public final class PromisesBoundaryTest {
         refused("ROOM", full, y -> y.array(OBJECT), ROOM);
     }
 
+    private static void facts(Calls x, int node, int... facts) {
+        for (int what = 0; what <= 12; what++) {
+            due("about " + node + ", " + what, x.about(node, what), facts[what]);
+        }
+    }
+
     private static void about() {
         Calls x = busy();
         int nodes = x.count(1);
@@ -440,10 +446,13 @@ public final class PromisesBoundaryTest {
         Calls y = new Calls();
         due("B", y.declare(CLASS, 3, NONE), 1);
         int node = y.read("B<A,+b1,-b2>");
-        int[] facts = {5, 1, NONE, NONE, NONE, 3, EXACT, UP_TO, FROM, OBJECT, 12, 13, 0};
-        for (int what = 0; what < facts.length; what++) {
-            due("about three ARGUMENTS, " + what, y.about(node, what), facts[what]);
-        }
+        facts(y, node, 5, 1, NONE, NONE, NONE, 3, EXACT, UP_TO, FROM, OBJECT, 12, 13, 0);
+        facts(y, 0, 0, NONE, NONE, NONE, NONE, 0, NONE, NONE, NONE, NONE, NONE, NONE, 0);
+        facts(y, VOID, 1, NONE, NONE, NONE, NONE, 0, NONE, NONE, NONE, NONE, NONE, NONE, 0);
+        facts(y, NULL, 2, NONE, NONE, NONE, NONE, 0, NONE, NONE, NONE, NONE, NONE, NONE, 0);
+        facts(y, 13, 3, 1, 2, NONE, NONE, 0, NONE, NONE, NONE, NONE, NONE, NONE, 0);
+        facts(y, y.array(node), 4, NONE, NONE, node, NONE, 0, NONE, NONE, NONE, NONE, NONE, NONE, 0);
+        facts(x, INNER, 5, 4, NONE, NONE, OUTER, 1, EXACT, NONE, NONE, D, NONE, NONE, 0);
         int any = y.read("B<?,?,?>");
         for (int i = 0; i < 3; i++) {
             due("ANY's WILD", y.about(any, 6 + i), ANY);

@@ -295,11 +295,13 @@ public final class TermsBoundaryTest {
 
     /** NODES that had no ROOM leave nothing behind in those that come in their places. */
     private static void placesOfRefusedNodesAreFree() {
+        Calls x = Calls.world();
+        x.fill(199);
+        due("refused", x.read("C.E"), ROOM);
+        due("C is none", x.about(199, 0), UNKNOWN);
+        due("C", x.read("C"), 199);
+        due("NODES", x.count(1), 200);
         for (int free = 1; free <= 3; free++) {
-            Calls x = Calls.world();
-            int inner = x.read("C<A,+B<?>>.E<A>.F");
-            x.fill(200 - free);
-            due("refused", x.erased(inner), free < 3 ? ROOM : 199);
             Calls y = Calls.world();
             y.read("C<A,+B<?>>.E<A>.F");
             y.fill(200 - free);
@@ -669,6 +671,25 @@ public final class TermsBoundaryTest {
         below(x, "C<C<b0>>", "C<+C<+C<?>>>", 0);
     }
 
+    private static void theFirstBoundThatIsBelowTells() {
+        Calls x = new Calls();
+        due("B", x.declare(INTERFACE, 1, NONE), 1);
+        due("C", x.declare(INTERFACE, 0, NONE), 2);
+        due("D", x.declare(CLASS, 1, NONE), 3);
+        due("first", x.bound(3, 0, x.read("C")), 1);
+        due("second", x.bound(3, 0, x.read("B")), 2);
+        due("third", x.bound(3, 0, x.read("B<C>")), 3);
+        below(x, "d0", "C", 1);
+        below(x, "d0", "B", 1);
+        below(x, "d0", "B<C>", 2);
+        below(x, "d0", "B<A>", 2);
+        below(x, "d0", "D", 0);
+        below(x, "d0", "A", 1);
+        below(x, "d0", "b0", 0);
+        below(x, "b0", "A", 1);
+        below(x, "b0", "C", 0);
+    }
+
     /** B .. L: each with three PARAMETERS, a PARENT of the one before, and RULE 13 asked for each part that is read. */
     private static Calls dear() {
         Calls x = new Calls();
@@ -897,7 +918,8 @@ public final class TermsBoundaryTest {
         run("ERASED and SUPER", TermsBoundaryTest::erasedWithoutBounds, TermsBoundaryTest::superOfTheLongestChain,
                 TermsBoundaryTest::superOfTheWidestTree, TermsBoundaryTest::outerTypesGoOnToTheLast);
         run("BELOW", TermsBoundaryTest::argumentsAreInOneAnother, TermsBoundaryTest::belowIsFourDeepAtMost,
-                TermsBoundaryTest::boundsAreOneDeeperEach, TermsBoundaryTest::boundsOfWhatIsMadeAreAskedFirst,
+                TermsBoundaryTest::boundsAreOneDeeperEach, TermsBoundaryTest::theFirstBoundThatIsBelowTells,
+                TermsBoundaryTest::boundsOfWhatIsMadeAreAskedFirst,
                 TermsBoundaryTest::belowOfTheLongestChains);
         run("TEXT", TermsBoundaryTest::bytesOfATextsBegin, TermsBoundaryTest::bytesOfArrays,
                 TermsBoundaryTest::bytesOfClassTypes, TermsBoundaryTest::lettersOfAllTwelve,
