@@ -531,10 +531,10 @@ public final class TypeForms2 {
          * Without room it is some other row, and the call's answer will be ROOM.
          */
         int shaped(int newForm, int declaration, int inside, int first, int second, int third) {
-            for (int i = OBJECT_NODE; i < top; i++) {
-                if (i >= nodes && i < MOST_NODES) {
-                    i = MOST_NODES - 1;
-                } else if (form[i] == newForm && owner[i] == declaration && inner[i] == inside
+            int free = MOST_NODES - nodes;
+            for (int k = OBJECT_NODE; k < top - free; k++) {
+                int i = k < nodes ? k : k + free;
+                if (form[i] == newForm && owner[i] == declaration && inner[i] == inside
                         && arguments[i * MOST_PLACES] == first && arguments[i * MOST_PLACES + 1] == second
                         && arguments[i * MOST_PLACES + 2] == third) {
                     return i;
